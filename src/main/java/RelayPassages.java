@@ -105,7 +105,16 @@ public final class RelayPassages {
     public int cut(int a, int b) throws IllegalArgumentException {
         checkPair(a, b);
         network.closeFrom(a, b, now);
-        return bookAnew(cutOffTouched(a, b));
+        long touched = cutOffTouched(a, b);
+        int lost = 0;
+        for (int h = 0; h < given; h++) {
+            Parcel parcel = parcelOf(h);
+            if (parcel != null && (touched >> h & 1) != 0 && !bookAnew(parcel)) {
+                parcel.fate = LOST;
+                lost++;
+            }
+        }
+        return lost;
     }
 
     /** Promise 9. */
@@ -231,20 +240,8 @@ public final class RelayPassages {
         return touched;
     }
 
-    /** Answers how many of the touched parcels were lost. */
-    private int bookAnew(long touched) {
-        int lost = 0;
-        for (int h = 0; h < given; h++) {
-            Parcel parcel = parcelOf(h);
-            if (parcel != null && (touched >> h & 1) != 0 && !findNewWay(parcel)) {
-                parcel.fate = LOST;
-                lost++;
-            }
-        }
-        return lost;
-    }
-
-    private boolean findNewWay(Parcel parcel) {
+    /** Answers whether there is a way for the parcel, whose journey was cut off. */
+    private boolean bookAnew(Parcel parcel) {
         int start = Math.max(parcel.at, now);
         // A cut-off journey keeps its row, so this is the source for AT as well as the node for NOW.
         int end = finder.seek(network, parcel.nodes[start], start, parcel.goal);
@@ -257,11 +254,12 @@ public final class RelayPassages {
 
     /** The nodes, what is open between them, and what the journeys use of them. */
     private static final class Network {
-        private final int[] places = new int[NODES];
+        int nodes;
+        int contacts;
+        // The set of the nodes that there are; bit n stands for node n in this and all sets of nodes.
         private int made;
-        private int nodes;
-        private int contacts;
-        // One cell for each tick and node; a cell of the first two holds the set of the nodes at the links' other ends.
+        private final int[] places = new int[NODES];
+        // One cell for each tick and node; in the first two it holds the set of the nodes at the other ends of links.
         private final int[] openTo = new int[TICKS * NODES];
         private final int[] usedTo = new int[TICKS * NODES];
         private final int[] storedAt = new int[TICKS * NODES];
@@ -323,8 +321,9 @@ public final class RelayPassages {
 
         /** The set of the nodes for t + 1 that a way can have after node n for t. */
         int onward(int n, int t) {
-            int byLink = openTo[cell(n, t)] & ~usedTo[cell(n, t)];
-            return placesLeft(n, t) > 0 ? byLink | 1 << n : byLink;
+            int at = cell(n, t);
+            int byLink = openTo[at] & ~usedTo[at];
+            return storedAt[at] < places[n] ? byLink | 1 << n : byLink;
         }
 
         void take(int n, int next, int t) {
@@ -346,12 +345,12 @@ public final class RelayPassages {
 
     /** A parcel and its journey: the nodes for the ticks at .. last, or none when last is NONE. */
     private static final class Parcel {
-        private final int goal;
-        private final int at;
-        private final int[] nodes = new int[TICKS + 1];
-        private int last = NONE;
+        final int goal;
+        final int at;
+        final int[] nodes = new int[TICKS + 1];
+        int last = NONE;
         // CANCELLED or LOST; 0 while time alone tells the state.
-        private int fate = 0;
+        int fate = 0;
 
         Parcel(int goal, int at) {
             this.goal = goal;
@@ -391,8 +390,8 @@ public final class RelayPassages {
 
     /** Finds best ways; its rows are made once and used for every search. */
     private static final class WayFinder {
+        final int[] way = new int[TICKS + 1];
         private final int[] leading = new int[TICKS + 1];
-        private final int[] way = new int[TICKS + 1];
 
         /** Answers the last tick of the best way and leaves its nodes in the row way; NONE when there is no way. */
         int seek(Network network, int from, int start, int goal) {

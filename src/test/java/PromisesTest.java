@@ -687,8 +687,8 @@ public final class PromisesTest {
         }
         Check.due("16: in the last tick", true, desk.open(0, 1, 63));
         Check.due("16: another pair", false, desk.open(0, 2, 0));
-        int[][] wrong = {{0, 0, 0}, {0, 3, 0}, {3, 0, 0}, {-1, 1, 0}, {0, 9, 0}, {8, 1, 0}, {0, 33, 0}, {LEAST, MOST, 0},
-            {0, 1, -1}, {0, 1, 64}, {0, 1, LEAST}, {0, 1, MOST}};
+        int[][] wrong = {{0, 0, 0}, {0, 3, 0}, {3, 0, 0}, {-1, 1, 0}, {0, 9, 0}, {8, 1, 0}, {0, 33, 0},
+            {LEAST, MOST, 0}, {0, 1, -1}, {0, 1, 64}, {0, 1, LEAST}, {0, 1, MOST}};
         for (int[] w : wrong) {
             Check.due("16: wrong " + String.join(",", names(w)), false, desk.open(w[0], w[1], w[2]));
         }
