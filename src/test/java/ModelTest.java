@@ -1,10 +1,15 @@
-/** Runs of up to 512 calls, drawn by a fixed rule, on the program and on the model: every answer is compared. */
+import java.util.ArrayList;
+import java.util.List;
+
+/** Runs of 512 calls, drawn by a fixed rule, on the program and on the model: every answer is compared. */
 public final class ModelTest {
     private static final int RUNS = 400;
-    private static final int CALLS = 512;
+    private static final int LAST_LOOKS = 60;
+    private static final List<Ask> PARCELS = Desk.looksAtParcels();
+    private static final List<Ask> USES = Desk.looksAtUses();
     private static final int[] ODD = {-1, 8, 64, 65, 32, -7, 1000, Integer.MAX_VALUE, Integer.MIN_VALUE};
 
-    private final RelayPassages desk = new RelayPassages();
+    private final Desk desk = new Desk();
     private final Model model = new Model();
     private final int run;
     private final int nodeCount;
@@ -14,7 +19,7 @@ public final class ModelTest {
     private final int cutRate;
     private final int tickRate;
     private long seed;
-    private int calls = 0;
+    private int changes = 0;
     private int booked = 0;
 
     private ModelTest(int run) {
@@ -43,10 +48,11 @@ public final class ModelTest {
         for (int i = 0; i < 2 * nodeCount; i++) {
             drawContact();
         }
-        while (calls < CALLS - 60) {
+        while (desk.callsLeft() > LAST_LOOKS) {
             drawCall();
         }
-        while (calls < CALLS) {
+        compare(PARCELS);
+        while (desk.callsLeft() > 0) {
             drawLook();
         }
     }
@@ -119,14 +125,15 @@ public final class ModelTest {
     }
 
     private void call(String name, int a, int b, int c, int d) {
-        calls++;
-        String what = "run " + run + ", call " + calls + ": " + name + "(" + a + ", " + b + ", " + c + ", " + d + ")";
-        Check.due(what, Check.outcome(() -> ofModel(name, a, b, c, d)), Check.outcome(() -> ofDesk(name, a, b, c, d)));
+        Ask ask = new Ask(name, a, b, c, d);
+        String want = ask.outcome(model);
+        Check.due(where() + ask, want, Check.outcome(() -> desk.make(ask)));
         while (model.state(booked) != 0) {
             booked++;
         }
         if (isChange(name)) {
-            compareAll(what);
+            changes++;
+            compareNowAndThen();
         }
     }
 
@@ -134,83 +141,25 @@ public final class ModelTest {
         return name.equals("book") || name.equals("cancel") || name.equals("cut") || name.equals("tick");
     }
 
-    /** Looks beyond the drawn calls: the looks of the face change nothing, so they may be as many as we like. */
-    private void compareAll(String what) {
-        long want = 0;
-        long got = 0;
-        for (int h = 0; h < 32; h++) {
-            want = mix(mix(mix(want, model.state(h)), model.where(h)), model.arrival(h));
-            got = mix(mix(mix(got, desk.state(h)), desk.where(h)), desk.arrival(h));
-            for (int t = 0; t <= 64; t++) {
-                want = mix(want, model.step(h, t));
-                got = mix(got, desk.step(h, t));
-            }
+    private String where() {
+        return "run " + run + ", " + desk.callsLeft() + " calls before its end: ";
+    }
+
+    // Few calls left make many fresh objects for the looks of one comparison, so late in a run there are none.
+    private void compareNowAndThen() {
+        if (changes % 10 == 0 && desk.callsLeft() > 150) {
+            compare(PARCELS);
         }
-        Check.due("all parcels after " + what, want, got);
-        if (run % 10 == 0) {
-            compareUses(what);
+        if (changes % 50 == 0 && desk.callsLeft() > 150) {
+            compare(USES);
         }
     }
 
-    private void compareUses(String what) {
-        long want = 0;
-        long got = 0;
-        for (int t = 0; t < 64; t++) {
-            for (int a = 0; a < 8; a++) {
-                want = mix(mix(want, model.stored(a, t)), model.free(a, t));
-                got = mix(mix(got, desk.stored(a, t)), desk.free(a, t));
-                for (int b = 0; b < 8; b++) {
-                    want = mix(mix(want, model.linkUsed(a, b, t)), model.open(a, b, t) ? 1 : 0);
-                    got = mix(mix(got, desk.linkUsed(a, b, t)), desk.open(a, b, t) ? 1 : 0);
-                }
-            }
+    private void compare(List<Ask> looks) {
+        List<String> want = new ArrayList<>();
+        for (Ask look : looks) {
+            want.add(look.outcome(model));
         }
-        Check.due("all uses after " + what, want, got);
-    }
-
-    private static long mix(long sum, int answer) {
-        return sum * 1000003L + answer;
-    }
-
-    private long ofDesk(String name, int a, int b, int c, int d) {
-        return switch (name) {
-            case "node" -> desk.node(a, b);
-            case "contact" -> desk.contact(a, b, c, d);
-            case "now" -> desk.now();
-            case "book" -> desk.book(a, b, c);
-            case "whatIf" -> desk.whatIf(a, b, c);
-            case "cancel" -> desk.cancel(a);
-            case "cut" -> desk.cut(a, b);
-            case "tick" -> desk.tick();
-            case "state" -> desk.state(a);
-            case "where" -> desk.where(a);
-            case "arrival" -> desk.arrival(a);
-            case "step" -> desk.step(a, b);
-            case "linkUsed" -> desk.linkUsed(a, b, c);
-            case "stored" -> desk.stored(a, b);
-            case "open" -> desk.open(a, b, c) ? 1 : 0;
-            default -> desk.free(a, b);
-        };
-    }
-
-    private long ofModel(String name, int a, int b, int c, int d) {
-        return switch (name) {
-            case "node" -> model.node(a, b);
-            case "contact" -> model.contact(a, b, c, d);
-            case "now" -> model.now();
-            case "book" -> model.book(a, b, c);
-            case "whatIf" -> model.whatIf(a, b, c);
-            case "cancel" -> model.cancel(a);
-            case "cut" -> model.cut(a, b);
-            case "tick" -> model.tick();
-            case "state" -> model.state(a);
-            case "where" -> model.where(a);
-            case "arrival" -> model.arrival(a);
-            case "step" -> model.step(a, b);
-            case "linkUsed" -> model.linkUsed(a, b, c);
-            case "stored" -> model.stored(a, b);
-            case "open" -> model.open(a, b, c) ? 1 : 0;
-            default -> model.free(a, b);
-        };
+        Check.same(where() + "all looks", looks, want, desk.answersTo(looks));
     }
 }

@@ -46,37 +46,14 @@ public final class PromisesTest {
         Check.end();
     }
 
-    /** Nodes 0, 1, .. with these places. */
-    private static RelayPassages deskOf(int... places) {
-        RelayPassages desk = new RelayPassages();
-        for (int n = 0; n < places.length; n++) {
-            desk.node(n, places[n]);
-        }
-        return desk;
-    }
-
-    private static void tickTo(RelayPassages desk, int tick) {
-        for (int i = desk.now(); i < tick; i++) {
-            desk.tick();
-        }
-    }
-
-    private static void journey(String what, RelayPassages desk, int h, int first, int... nodes) {
-        Check.due(what + ": before the first tick", NONE, desk.step(h, first - 1));
-        for (int i = 0; i < nodes.length; i++) {
-            Check.due(what + ": node for tick " + (first + i), nodes[i], desk.step(h, first + i));
-        }
-        Check.due(what + ": after the last tick", NONE, desk.step(h, first + nodes.length));
-    }
-
-    private static void noJourney(String what, RelayPassages desk, int h) {
+    private static void noJourney(String what, Desk desk, int h) {
         for (int t = -1; t <= 65; t++) {
             Check.due(what + ": node for tick " + t, NONE, desk.step(h, t));
         }
     }
 
     private static void promise1NewObject() {
-        RelayPassages desk = new RelayPassages();
+        Desk desk = new Desk();
         Check.due("1: NOW", 0, desk.now());
         for (int n = 0; n < 8; n++) {
             Check.due("1: no node", NONE, desk.free(n, 0));
@@ -89,11 +66,11 @@ public final class PromisesTest {
         desk.node(1, 0);
         Check.due("1: a first contact", 1, desk.contact(0, 1, 1, 2));
         Check.due("1: a first handle", 0, desk.book(0, 1, 1));
-        Check.due("1: another object has none of it", NONE, new RelayPassages().free(0, 0));
+        Check.due("1: another object has none of it", NONE, new Desk().free(0, 0));
     }
 
     private static void promise2Node() {
-        RelayPassages desk = new RelayPassages();
+        Desk desk = new Desk();
         Check.due("2: first", 1, desk.node(7, 4));
         Check.due("2: second", 2, desk.node(0, 0));
         Check.due("2: places of 7", 4, desk.free(7, 0));
@@ -118,7 +95,7 @@ public final class PromisesTest {
     }
 
     private static void promise3Contact() {
-        RelayPassages desk = deskOf(0, 0, 0);
+        Desk desk = Desk.of(0, 0, 0);
         Check.due("3: first", 1, desk.contact(0, 1, 0, 3));
         Check.due("3: before", false, desk.open(0, 1, -1));
         Check.due("3: from", true, desk.open(0, 1, 0));
@@ -138,11 +115,11 @@ public final class PromisesTest {
             Check.throwing("3: wrong " + String.join(",", names(w)), IAE, () -> desk.contact(w[0], w[1], w[2], w[3]));
         }
         Check.due("3: what threw opened nothing", false, desk.open(0, 1, 6));
-        tickTo(desk, 6);
+        desk.tickTo(6);
         Check.throwing("3: from is past", IAE, () -> desk.contact(0, 1, 5, 8));
         Check.throwing("3: past and open: the past comes first", IAE, () -> desk.contact(1, 2, 5, 8));
         Check.due("3: from is NOW", 4, desk.contact(0, 1, 6, 8));
-        tickTo(desk, 64);
+        desk.tickTo(64);
         Check.throwing("3: NOW is 64", IAE, () -> desk.contact(0, 1, 64, 64));
         Check.throwing("3: NOW is 64, beyond", IAE, () -> desk.contact(0, 1, 64, 65));
     }
@@ -156,7 +133,7 @@ public final class PromisesTest {
     }
 
     private static void promise3ContactLimit() {
-        RelayPassages desk = deskOf(0, 0);
+        Desk desk = Desk.of(0, 0);
         for (int i = 0; i < 24; i++) {
             Check.due("3: contact " + i, i + 1, desk.contact(0, 1, 2 * i, 2 * i + 1));
         }
@@ -168,7 +145,7 @@ public final class PromisesTest {
     }
 
     private static void promise3ContactAfterCut() {
-        RelayPassages desk = deskOf(0, 0);
+        Desk desk = Desk.of(0, 0);
         desk.contact(0, 1, 0, 10);
         desk.cut(1, 0);
         Check.due("3: open again", 2, desk.contact(0, 1, 0, 4));
@@ -177,7 +154,7 @@ public final class PromisesTest {
     }
 
     private static void promise4Now() {
-        RelayPassages desk = new RelayPassages();
+        Desk desk = new Desk();
         for (int t = 0; t < 64; t++) {
             Check.due("4: NOW", t, desk.now());
             desk.tick();
@@ -188,12 +165,12 @@ public final class PromisesTest {
     }
 
     private static void promise5Book() {
-        RelayPassages desk = deskOf(1, 1, 0);
+        Desk desk = Desk.of(1, 1, 0);
         desk.contact(0, 1, 2, 3);
         desk.contact(1, 2, 4, 5);
         Check.due("5: no way beyond the contacts", NONE, desk.book(0, 2, 3));
         Check.due("5: first handle, NONE gave none", 0, desk.book(0, 2, 1));
-        journey("5: journey", desk, 0, 1, 0, 0, 1, 1, 2);
+        Check.journey("5: journey", desk, 0, 1, 0, 0, 1, 1, 2);
         Check.due("5: last tick", 5, desk.arrival(0));
         Check.due("5: link in use", NONE, desk.book(0, 2, 1));
         Check.due("5: the link's other way is free", 1, desk.book(1, 0, 2));
@@ -205,7 +182,7 @@ public final class PromisesTest {
     }
 
     private static void promise5BestWay() {
-        RelayPassages desk = deskOf(2, 1, 1, 0, 1);
+        Desk desk = Desk.of(2, 1, 1, 0, 1);
         for (int n = 0; n < 4; n++) {
             desk.contact(n, 4, 0, 64);
         }
@@ -215,28 +192,28 @@ public final class PromisesTest {
         Check.due("5: the straight link", 1, desk.whatIf(3, 4, 0));
         desk.book(3, 4, 0);
         desk.book(3, 4, 0);
-        journey("5: then by the lesser node", desk, 1, 0, 3, 1, 4);
+        Check.journey("5: then by the lesser node", desk, 1, 0, 3, 1, 4);
         desk.book(3, 4, 0);
-        journey("5: then by the next one", desk, 2, 0, 3, 2, 4);
+        Check.journey("5: then by the next one", desk, 2, 0, 3, 2, 4);
         Check.due("5: then none is left, 3 has no places", NONE, desk.book(3, 4, 0));
-        RelayPassages late = deskOf(1, 1, 0);
+        Desk late = Desk.of(1, 1, 0);
         late.contact(0, 1, 0, 64);
         late.contact(0, 2, 6, 7);
         late.contact(1, 2, 8, 9);
         late.book(1, 2, 0);
-        journey("5: the lesser node at the first tick that differs", late, 0, 0, 1, 0, 0, 0, 0, 0, 0, 2);
+        Check.journey("5: the lesser node at the first tick that differs", late, 0, 0, 1, 0, 0, 0, 0, 0, 0, 2);
         late.book(1, 2, 0);
-        journey("5: a place that is used by another is passed by",
+        Check.journey("5: a place that is used by another is passed by",
             late, 1, 0, 1, 1, 0, 1, 0, 1, 0, 0, 1, 2);
-        RelayPassages stay = deskOf(0, 4, 0, 4);
+        Desk stay = Desk.of(0, 4, 0, 4);
         stay.contact(1, 3, 0, 64);
         stay.contact(2, 3, 5, 6);
         stay.book(3, 2, 0);
-        journey("5: a lesser node is waited in, though the way is longer", stay, 0, 0, 3, 1, 1, 1, 1, 3, 2);
+        Check.journey("5: a lesser node is waited in, though the way is longer", stay, 0, 0, 3, 1, 1, 1, 1, 3, 2);
     }
 
     private static void promise5Places() {
-        RelayPassages desk = deskOf(2, 0);
+        Desk desk = Desk.of(2, 0);
         desk.contact(0, 1, 5, 9);
         Check.due("5: place one", 0, desk.book(0, 1, 3));
         Check.due("5: place two", 1, desk.book(0, 1, 4));
@@ -249,17 +226,17 @@ public final class PromisesTest {
     }
 
     private static void promise5LastTick() {
-        RelayPassages desk = deskOf(1, 1);
+        Desk desk = Desk.of(1, 1);
         desk.contact(0, 1, 63, 64);
         Check.due("5: all ticks waited", 0, desk.book(0, 1, 0));
         Check.due("5: ends with 64", 64, desk.arrival(0));
         Check.due("5: at 63", 1, desk.book(1, 0, 63));
-        journey("5: two nodes", desk, 1, 63, 1, 0);
+        Check.journey("5: two nodes", desk, 1, 63, 1, 0);
         Check.due("5: no end beyond 64", NONE, desk.book(0, 1, 63));
     }
 
     private static void promise5Wrong() {
-        RelayPassages desk = deskOf(1, 1);
+        Desk desk = Desk.of(1, 1);
         desk.contact(0, 1, 0, 64);
         desk.tick();
         desk.tick();
@@ -272,13 +249,13 @@ public final class PromisesTest {
             Check.throwing("6: wrong " + String.join(",", names(w)), IAE, () -> desk.whatIf(w[0], w[1], w[2]));
         }
         Check.due("5: what threw gave no handle", 0, desk.book(0, 1, 2));
-        tickTo(desk, 64);
+        desk.tickTo(64);
         Check.throwing("5: NOW is 64", IAE, () -> desk.book(0, 1, 63));
         Check.throwing("5: NOW is 64, at it", IAE, () -> desk.book(0, 1, 64));
     }
 
     private static void promise5HandleLimit() {
-        RelayPassages desk = deskOf(0, 0, 0);
+        Desk desk = Desk.of(0, 0, 0);
         desk.contact(0, 1, 0, 64);
         for (int h = 0; h < 32; h++) {
             Check.due("5: handle", h, desk.book(0, 1, h));
@@ -295,7 +272,7 @@ public final class PromisesTest {
     }
 
     private static void promise6WhatIf() {
-        RelayPassages desk = deskOf(1, 1, 0);
+        Desk desk = Desk.of(1, 1, 0);
         desk.contact(0, 1, 0, 2);
         desk.contact(1, 2, 4, 6);
         Check.due("6: last tick", 5, desk.whatIf(0, 2, 0));
@@ -306,11 +283,11 @@ public final class PromisesTest {
         Check.due("6: no way", NONE, desk.whatIf(2, 0, 0));
         desk.book(1, 2, 4);
         Check.due("6: after a booking", 6, desk.whatIf(0, 2, 0));
-        journey("6: the journeys stand", desk, 0, 4, 1, 2);
+        Check.journey("6: the journeys stand", desk, 0, 4, 1, 2);
     }
 
     private static void promise7Cancel() {
-        RelayPassages desk = deskOf(2, 2);
+        Desk desk = Desk.of(2, 2);
         desk.contact(0, 1, 6, 9);
         desk.book(0, 1, 2);
         desk.book(0, 1, 2);
@@ -325,17 +302,17 @@ public final class PromisesTest {
         Check.due("7: the link is free again", 0, desk.linkUsed(0, 1, 6));
         Check.throwing("7: cancelled before", ISE, () -> desk.cancel(0));
         Check.due("7: the others stay as they are", 8, desk.arrival(1));
-        tickTo(desk, 4);
+        desk.tickTo(4);
         Check.due("7: travelling: the ticks from NOW on", 4, desk.cancel(1));
-        journey("7: ends with NOW", desk, 1, 2, 0, 0, 0);
+        Check.journey("7: ends with NOW", desk, 1, 2, 0, 0, 0);
         Check.due("7: what was used stays used", 1, desk.stored(0, 3));
         Check.due("7: NOW is not used", 0, desk.stored(0, 4));
         Check.due("7: no arrival", NONE, desk.arrival(1));
-        tickTo(desk, 9);
+        desk.tickTo(9);
         Check.due("7: arrived", RelayPassages.ARRIVED, desk.state(2));
         Check.throwing("7: arrived", ISE, () -> desk.cancel(2));
         Check.due("7: still arrived", RelayPassages.ARRIVED, desk.state(2));
-        RelayPassages other = deskOf(0, 0);
+        Desk other = Desk.of(0, 0);
         other.contact(0, 1, 3, 4);
         other.book(0, 1, 3);
         other.cut(0, 1);
@@ -344,26 +321,26 @@ public final class PromisesTest {
     }
 
     private static void promise7CancelOnFirstTick() {
-        RelayPassages desk = deskOf(1, 0);
+        Desk desk = Desk.of(1, 0);
         desk.contact(0, 1, 3, 4);
         desk.book(0, 1, 2);
-        tickTo(desk, 2);
+        desk.tickTo(2);
         Check.due("7: on its first tick", 2, desk.cancel(0));
-        journey("7: its first tick stays", desk, 0, 2, 0);
+        Check.journey("7: its first tick stays", desk, 0, 2, 0);
         Check.due("7: it uses nothing", 0, desk.stored(0, 2) + desk.linkUsed(0, 1, 3));
         Check.due("7: it never arrives", 0, desk.tick() + desk.tick() + desk.tick());
         Check.due("7: it stays cancelled", RelayPassages.CANCELLED, desk.state(0));
     }
 
     private static void promise8CutBooked() {
-        RelayPassages desk = deskOf(1, 1, 1);
+        Desk desk = Desk.of(1, 1, 1);
         desk.contact(0, 2, 4, 6);
         desk.contact(0, 1, 4, 6);
         desk.contact(1, 2, 7, 8);
         desk.book(0, 2, 3);
-        journey("8: at first", desk, 0, 3, 0, 0, 2);
+        Check.journey("8: at first", desk, 0, 3, 0, 0, 2);
         Check.due("8: none lost", 0, desk.cut(2, 0));
-        journey("8: from its source at AT", desk, 0, 3, 0, 0, 0, 1, 1, 2);
+        Check.journey("8: from its source at AT", desk, 0, 3, 0, 0, 0, 1, 1, 2);
         Check.due("8: still booked", RelayPassages.BOOKED, desk.state(0));
         Check.due("8: the old link is not used", 0, desk.linkUsed(0, 2, 4));
         Check.due("8: the new one is", 1, desk.linkUsed(1, 2, 7));
@@ -378,30 +355,30 @@ public final class PromisesTest {
     }
 
     private static void promise8CutTravelling() {
-        RelayPassages desk = deskOf(1, 1, 0, 1);
+        Desk desk = Desk.of(1, 1, 0, 1);
         desk.contact(0, 1, 1, 2);
         desk.contact(1, 2, 5, 6);
         desk.contact(1, 3, 4, 7);
         desk.contact(2, 3, 6, 9);
         desk.book(0, 2, 0);
-        tickTo(desk, 3);
+        desk.tickTo(3);
         Check.due("8: none lost", 0, desk.cut(1, 2));
-        journey("8: goes on from the node for NOW", desk, 0, 0, 0, 0, 1, 1, 1, 1, 3, 2);
+        Check.journey("8: goes on from the node for NOW", desk, 0, 0, 0, 0, 1, 1, 1, 1, 3, 2);
         Check.due("8: past ticks stay open", true, desk.open(0, 1, 1));
         Check.due("8: a pair that was used before is cut", 0, desk.cut(0, 1));
         Check.due("8: not touched by it", 7, desk.arrival(0));
-        tickTo(desk, 4);
+        desk.tickTo(4);
         Check.due("8: lost", 1, desk.cut(3, 2));
-        journey("8: a lost one that travelled ends with NOW", desk, 0, 0, 0, 0, 1, 1, 1);
+        Check.journey("8: a lost one that travelled ends with NOW", desk, 0, 0, 0, 0, 1, 1, 1);
         Check.due("8: used in tick 3", 1, desk.stored(1, 3));
         Check.due("8: not used in tick 4", 0, desk.stored(1, 4));
         Check.due("8: nowhere", NONE, desk.where(0));
-        tickTo(desk, 9);
+        desk.tickTo(9);
         Check.due("8: it never arrives", RelayPassages.LOST, desk.state(0));
     }
 
     private static void promise8CutByRisingHandles() {
-        RelayPassages desk = deskOf(0, 0, 0, 0);
+        Desk desk = Desk.of(0, 0, 0, 0);
         desk.contact(0, 3, 0, 64);
         desk.contact(0, 1, 0, 64);
         desk.contact(0, 2, 0, 64);
@@ -411,22 +388,22 @@ public final class PromisesTest {
         desk.book(0, 3, 5);
         desk.book(0, 3, 4);
         desk.book(1, 3, 7);
-        journey("8: straight", desk, 0, 5, 0, 3);
-        journey("8: by 1", desk, 1, 5, 0, 1, 3);
+        Check.journey("8: straight", desk, 0, 5, 0, 3);
+        Check.journey("8: by 1", desk, 1, 5, 0, 1, 3);
         Check.due("8: only the straight ones are touched", 0, desk.cut(0, 3));
-        journey("8: 0 takes what 1 left", desk, 0, 5, 0, 2, 3);
-        journey("8: 1 stays", desk, 1, 5, 0, 1, 3);
-        journey("8: 2 by the lesser node", desk, 2, 4, 0, 1, 3);
+        Check.journey("8: 0 takes what 1 left", desk, 0, 5, 0, 2, 3);
+        Check.journey("8: 1 stays", desk, 1, 5, 0, 1, 3);
+        Check.journey("8: 2 by the lesser node", desk, 2, 4, 0, 1, 3);
         Check.due("8: all three that go by 1 find another way", 0, desk.cut(1, 3));
-        journey("8: 0 is not touched", desk, 0, 5, 0, 2, 3);
-        journey("8: 1 by 1, back and by 2", desk, 1, 5, 0, 1, 0, 2, 3);
-        journey("8: 2 by 2", desk, 2, 4, 0, 2, 3);
-        journey("8: 3 back and by 2", desk, 3, 7, 1, 0, 2, 3);
+        Check.journey("8: 0 is not touched", desk, 0, 5, 0, 2, 3);
+        Check.journey("8: 1 by 1, back and by 2", desk, 1, 5, 0, 1, 0, 2, 3);
+        Check.journey("8: 2 by 2", desk, 2, 4, 0, 2, 3);
+        Check.journey("8: 3 back and by 2", desk, 3, 7, 1, 0, 2, 3);
         Check.due("8: all are lost", 4, desk.cut(0, 2));
     }
 
     private static void promise8CutOffFirst() {
-        RelayPassages desk = deskOf(0, 0, 0, 0, 0);
+        Desk desk = Desk.of(0, 0, 0, 0, 0);
         desk.contact(0, 4, 4, 5);
         desk.contact(0, 1, 5, 6);
         desk.contact(0, 2, 5, 6);
@@ -436,43 +413,43 @@ public final class PromisesTest {
         desk.book(2, 3, 6);
         desk.book(0, 3, 5);
         desk.book(4, 3, 4);
-        journey("8: the lower one at first", desk, 1, 5, 0, 1, 3);
-        journey("8: the higher one at first", desk, 2, 4, 4, 0, 2, 1, 3);
+        Check.journey("8: the lower one at first", desk, 1, 5, 0, 1, 3);
+        Check.journey("8: the higher one at first", desk, 2, 4, 4, 0, 2, 1, 3);
         desk.cancel(0);
         Check.due("8: the lower one takes what the higher one had", 1, desk.cut(1, 3));
-        journey("8: the lower one then", desk, 1, 5, 0, 2, 3);
+        Check.journey("8: the lower one then", desk, 1, 5, 0, 2, 3);
         Check.due("8: the higher one is lost", RelayPassages.LOST, desk.state(2));
     }
 
     private static void promise8CutSparesOthers() {
-        RelayPassages desk = deskOf(0, 0, 0, 0);
+        Desk desk = Desk.of(0, 0, 0, 0);
         desk.contact(0, 1, 5, 6);
         desk.contact(0, 2, 5, 6);
         desk.contact(1, 3, 6, 7);
         desk.contact(2, 3, 6, 7);
         desk.book(0, 3, 5);
         desk.book(2, 3, 6);
-        journey("8: before", desk, 0, 5, 0, 1, 3);
+        Check.journey("8: before", desk, 0, 5, 0, 1, 3);
         Check.due("8: one that is not touched keeps its link", 1, desk.cut(1, 3));
         Check.due("8: so the lower one is lost", RelayPassages.LOST, desk.state(0));
-        journey("8: and the higher one stays", desk, 1, 6, 2, 3);
+        Check.journey("8: and the higher one stays", desk, 1, 6, 2, 3);
     }
 
     private static void promise8CutBothLinks() {
-        RelayPassages desk = deskOf(2, 2, 0);
+        Desk desk = Desk.of(2, 2, 0);
         desk.contact(0, 1, 3, 6);
         desk.contact(1, 2, 4, 5);
         desk.contact(0, 2, 8, 9);
         desk.book(1, 0, 3);
         desk.book(0, 2, 3);
-        journey("8: there", desk, 1, 3, 0, 1, 2);
+        Check.journey("8: there", desk, 1, 3, 0, 1, 2);
         Check.due("8: both are touched", 1, desk.cut(0, 1));
         Check.due("8: one is lost", RelayPassages.LOST, desk.state(0));
         Check.due("8: the other one waits", 9, desk.arrival(1));
     }
 
     private static void promise8CutUntouched() {
-        RelayPassages desk = deskOf(0, 0, 4);
+        Desk desk = Desk.of(0, 0, 4);
         desk.contact(0, 1, 0, 8);
         desk.book(0, 1, 0);
         desk.book(0, 1, 5);
@@ -490,26 +467,26 @@ public final class PromisesTest {
     }
 
     private static void promise8CutInPresentTick() {
-        RelayPassages desk = deskOf(1, 0);
+        Desk desk = Desk.of(1, 0);
         desk.contact(0, 1, 2, 3);
         desk.contact(0, 1, 5, 6);
         desk.book(0, 1, 1);
-        tickTo(desk, 2);
+        desk.tickTo(2);
         Check.due("8: cut in the tick of the link", 1, desk.cut(0, 1));
         Check.due("8: NOW is closed", false, desk.open(0, 1, 2));
         Check.due("8: later ticks are closed", false, desk.open(1, 0, 5));
-        journey("8: ends with NOW", desk, 0, 1, 0, 0);
-        RelayPassages last = deskOf(1, 0);
+        Check.journey("8: ends with NOW", desk, 0, 1, 0, 0);
+        Desk last = Desk.of(1, 0);
         last.contact(0, 1, 63, 64);
         last.book(0, 1, 62);
-        tickTo(last, 64);
+        last.tickTo(64);
         Check.due("8: NOW is 64: nothing to cut", 0, last.cut(0, 1));
         Check.due("8: tick 63 stays open", true, last.open(0, 1, 63));
         Check.due("8: arrived at 64", RelayPassages.ARRIVED, last.state(0));
     }
 
     private static void promise8CutWrong() {
-        RelayPassages desk = deskOf(0, 0);
+        Desk desk = Desk.of(0, 0);
         desk.contact(0, 1, 0, 5);
         int[][] wrong = {{0, 0}, {0, 2}, {2, 0}, {-1, 0}, {0, 8}, {LEAST, 1}, {1, MOST}};
         for (int[] w : wrong) {
@@ -519,7 +496,7 @@ public final class PromisesTest {
     }
 
     private static void promise9Tick() {
-        RelayPassages desk = deskOf(4, 4);
+        Desk desk = Desk.of(4, 4);
         desk.contact(0, 1, 0, 4);
         desk.book(0, 1, 0);
         desk.book(1, 0, 0);
@@ -532,18 +509,18 @@ public final class PromisesTest {
         Check.due("9: one arrives", 1, desk.tick());
         Check.due("9: one more, the cancelled one not", 1, desk.tick());
         Check.due("9: none is counted twice", 0, desk.tick());
-        tickTo(desk, 63);
+        desk.tickTo(63);
         Check.due("9: to 64", 0, desk.tick());
         Check.throwing("9: NOW is 64", ISE, desk::tick);
-        RelayPassages last = deskOf(0, 0);
+        Desk last = Desk.of(0, 0);
         last.contact(0, 1, 63, 64);
         last.book(0, 1, 63);
-        tickTo(last, 63);
+        last.tickTo(63);
         Check.due("9: one arrives at 64", 1, last.tick());
     }
 
     private static void promise10State() {
-        RelayPassages desk = deskOf(1, 1);
+        Desk desk = Desk.of(1, 1);
         desk.contact(0, 1, 3, 8);
         desk.book(0, 1, 2);
         desk.book(0, 1, 5);
@@ -554,28 +531,28 @@ public final class PromisesTest {
         int[] due = {RelayPassages.BOOKED, RelayPassages.BOOKED, RelayPassages.TRAVELLING, RelayPassages.TRAVELLING,
             RelayPassages.ARRIVED, RelayPassages.ARRIVED};
         for (int t = 0; t < due.length; t++) {
-            tickTo(desk, t);
+            desk.tickTo(t);
             Check.due("10: at " + t, due[t], desk.state(0));
         }
         desk.cancel(1);
         Check.due("10: cancelled", RelayPassages.CANCELLED, desk.state(1));
         desk.cut(0, 1);
         Check.due("10: lost", RelayPassages.LOST, desk.state(2));
-        tickTo(desk, 64);
+        desk.tickTo(64);
         Check.due("10: arrived at the end", RelayPassages.ARRIVED, desk.state(0));
         Check.due("10: cancelled at the end", RelayPassages.CANCELLED, desk.state(1));
         Check.due("10: lost at the end", RelayPassages.LOST, desk.state(2));
     }
 
     private static void promise11Where() {
-        RelayPassages desk = deskOf(1, 1, 1);
+        Desk desk = Desk.of(1, 1, 1);
         desk.contact(0, 1, 2, 3);
         desk.contact(1, 2, 4, 9);
         desk.book(0, 2, 1);
         desk.book(1, 2, 5);
         int[] due = {NONE, 0, 0, 1, 1, NONE};
         for (int t = 0; t < due.length; t++) {
-            tickTo(desk, t);
+            desk.tickTo(t);
             Check.due("11: at " + t, due[t], desk.where(0));
         }
         Check.due("11: on its first tick", 1, desk.where(1));
@@ -591,15 +568,15 @@ public final class PromisesTest {
     }
 
     private static void promise12Arrival() {
-        RelayPassages desk = deskOf(1, 1);
+        Desk desk = Desk.of(1, 1);
         desk.contact(0, 1, 3, 9);
         desk.book(0, 1, 2);
         desk.book(0, 1, 5);
         desk.book(0, 1, 6);
         Check.due("12: booked", 4, desk.arrival(0));
-        tickTo(desk, 2);
+        desk.tickTo(2);
         Check.due("12: travelling", 4, desk.arrival(0));
-        tickTo(desk, 5);
+        desk.tickTo(5);
         Check.due("12: arrived", 4, desk.arrival(0));
         Check.due("12: another", 6, desk.arrival(1));
         desk.cancel(1);
@@ -613,25 +590,25 @@ public final class PromisesTest {
     }
 
     private static void promise13Step() {
-        RelayPassages desk = deskOf(1, 1);
+        Desk desk = Desk.of(1, 1);
         desk.contact(0, 1, 62, 64);
         desk.book(0, 1, 61);
         desk.book(1, 0, 63);
-        journey("13: a journey", desk, 0, 61, 0, 0, 1);
-        journey("13: to tick 64", desk, 1, 63, 1, 0);
+        Check.journey("13: a journey", desk, 0, 61, 0, 0, 1);
+        Check.journey("13: to tick 64", desk, 1, 63, 1, 0);
         for (int t : new int[] {-1, 0, 65, LEAST, MOST}) {
             Check.due("13: no tick " + t, NONE, desk.step(1, t));
         }
         for (int h : new int[] {-1, 2, 32, LEAST, MOST}) {
             Check.due("13: no parcel " + h, NONE, desk.step(h, 63));
         }
-        tickTo(desk, 64);
-        journey("13: when it has arrived", desk, 0, 61, 0, 0, 1);
+        desk.tickTo(64);
+        Check.journey("13: when it has arrived", desk, 0, 61, 0, 0, 1);
         Check.due("13: the last tick of all", 0, desk.step(1, 64));
     }
 
     private static void promise14LinkUsed() {
-        RelayPassages desk = deskOf(1, 1, 0);
+        Desk desk = Desk.of(1, 1, 0);
         desk.contact(0, 1, 0, 64);
         desk.book(0, 1, 3);
         desk.book(1, 0, 63);
@@ -646,7 +623,7 @@ public final class PromisesTest {
         for (int[] w : wrong) {
             Check.due("14: wrong " + String.join(",", names(w)), 0, desk.linkUsed(w[0], w[1], w[2]));
         }
-        tickTo(desk, 10);
+        desk.tickTo(10);
         Check.due("14: used in the past", 1, desk.linkUsed(0, 1, 3));
         desk.book(0, 1, 10);
         desk.cancel(2);
@@ -654,7 +631,7 @@ public final class PromisesTest {
     }
 
     private static void promise15Stored() {
-        RelayPassages desk = deskOf(3, 0);
+        Desk desk = Desk.of(3, 0);
         desk.contact(0, 1, 5, 64);
         desk.book(0, 1, 4);
         desk.book(0, 1, 4);
@@ -670,14 +647,14 @@ public final class PromisesTest {
         for (int t : new int[] {-1, 64, LEAST, MOST}) {
             Check.due("15: no tick " + t, 0, desk.stored(0, t));
         }
-        tickTo(desk, 5);
+        desk.tickTo(5);
         desk.cancel(1);
         Check.due("15: past uses stay", 3, desk.stored(0, 4));
         Check.due("15: from NOW on one less", 1, desk.stored(0, 5));
     }
 
     private static void promise16Open() {
-        RelayPassages desk = deskOf(0, 0, 0);
+        Desk desk = Desk.of(0, 0, 0);
         desk.contact(1, 0, 0, 2);
         desk.contact(0, 1, 62, 64);
         boolean[] due = {true, true, false};
@@ -701,7 +678,7 @@ public final class PromisesTest {
     }
 
     private static void promise17Free() {
-        RelayPassages desk = deskOf(4, 0);
+        Desk desk = Desk.of(4, 0);
         desk.contact(0, 1, 2, 64);
         desk.book(0, 1, 1);
         desk.book(0, 1, 1);
@@ -719,7 +696,7 @@ public final class PromisesTest {
         }
         desk.cancel(0);
         Check.due("17: given back", 3, desk.free(0, 1));
-        tickTo(desk, 5);
+        desk.tickTo(5);
         Check.due("17: past uses stay", 3, desk.free(0, 1));
     }
 }
