@@ -42,6 +42,7 @@ public final class BoundaryLooksTest {
         promise17Places();
         promise17NoNode();
         promise17NoTick();
+        neighbouringTicks();
         Check.end();
     }
 
@@ -386,5 +387,29 @@ public final class BoundaryLooksTest {
             Check.due("t " + t, NONE, desk.free(0, t));
             Check.due("of a node without places, t " + t, NONE, desk.free(1, t));
         }
+    }
+
+    /** The last node in one tick is not the first node in the next one. */
+    private static void neighbouringTicks() {
+        Check.about("Promises 14 to 17", "in tick t");
+        Desk desk = Desk.of(1, 0, 0, 0, 0, 0, 0, 1);
+        desk.contact(7, 1, 6, 7);
+        desk.contact(0, 2, 9, 10);
+        desk.book(7, 1, 5);
+        Check.due("stored in 7", 1, desk.stored(7, 5));
+        Check.due("not in 0 a tick later", 0, desk.stored(0, 6));
+        Check.due("no place free in 7", 0, desk.free(7, 5));
+        Check.due("one in 0 a tick later", 1, desk.free(0, 6));
+        Check.due("link from 7", 1, desk.linkUsed(7, 1, 6));
+        Check.due("not from 0 a tick later", 0, desk.linkUsed(0, 1, 7));
+        Check.due("7 is open", true, desk.open(7, 1, 6));
+        Check.due("0 is not, a tick later", false, desk.open(0, 1, 7));
+        desk.book(0, 2, 8);
+        Check.due("stored in 0", 1, desk.stored(0, 8));
+        Check.due("not in 7 a tick sooner", 0, desk.stored(7, 7));
+        Check.due("link from 0", 1, desk.linkUsed(0, 2, 9));
+        Check.due("not from 7 a tick sooner", 0, desk.linkUsed(7, 2, 8));
+        Check.due("0 is open", true, desk.open(0, 2, 9));
+        Check.due("7 is not, a tick sooner", false, desk.open(7, 2, 8));
     }
 }

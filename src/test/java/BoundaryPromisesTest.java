@@ -52,6 +52,7 @@ public final class BoundaryPromisesTest {
         promise7NotUnderWay();
         promise8OpenNoMore();
         promise8Touched();
+        promise8NotTouched();
         promise8TouchedByEitherLink();
         promise8OnlyBookedOrTravelling();
         promise8AllCutOffFirst();
@@ -560,6 +561,41 @@ public final class BoundaryPromisesTest {
         none.book(0, 1, 3);
         Check.due("a pair that was never open touches none", 0, none.cut(1, 2));
         Check.due("it goes on", BOOKED, none.state(0));
+    }
+
+    /** Parcel 1 goes from 0 by 1 to 2 and waits for a link that is free by now: booked anew it would arrive sooner. */
+    private static Desk slowerThanNeedBe(int at) {
+        Desk desk = Desk.of(1, 4, 0, 0);
+        desk.contact(0, 1, at, at + 1);
+        desk.contact(1, 2, at + 2, at + 4);
+        desk.contact(2, 3, at, at + 1);
+        desk.contact(0, 3, at + 1, at + 4);
+        desk.book(1, 2, at + 2);
+        desk.book(0, 2, at);
+        desk.cancel(0);
+        return desk;
+    }
+
+    private static void promise8NotTouched() {
+        Check.about("Promise 8", "use one of its two links in one of those ticks: all others keep their journeys");
+        int[][] others = {{2, 3}, {3, 2}, {0, 3}, {3, 0}, {1, 3}, {0, 2}, {2, 0}};
+        for (int[] pair : others) {
+            Desk booked = slowerThanNeedBe(60);
+            Check.due("another pair", 0, booked.cut(pair[0], pair[1]));
+            Check.journey("booked, to 64", booked, 1, 60, 0, 1, 1, 1, 2);
+            Desk travelling = slowerThanNeedBe(4);
+            travelling.tickTo(5);
+            Check.due("another pair", 0, travelling.cut(pair[0], pair[1]));
+            Check.journey("travelling", travelling, 1, 4, 0, 1, 1, 1, 2);
+        }
+        Desk gone = slowerThanNeedBe(4);
+        gone.tickTo(5);
+        Check.due("its pair, but in the tick before NOW", 0, gone.cut(0, 1));
+        Check.journey("gone from there", gone, 1, 4, 0, 1, 1, 1, 2);
+        gone.tick();
+        Check.due("its pair, but two ticks before NOW", 0, gone.cut(1, 0));
+        Check.journey("long gone from there", gone, 1, 4, 0, 1, 1, 1, 2);
+        Check.due("the pair that it will use", 1, gone.cut(2, 1));
     }
 
     private static void promise8TouchedByEitherLink() {

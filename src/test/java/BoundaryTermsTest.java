@@ -31,6 +31,7 @@ public final class BoundaryTermsTest {
         linkFreeWhenUnused();
         wayEndsAtMost();
         wayStartsAndEnds();
+        wayByTheFirstAndTheLastNode();
         wayComesToGoalOnce();
         wayOfFreeThings();
         bestHasLeastEnd();
@@ -359,6 +360,18 @@ public final class BoundaryTermsTest {
         Check.journey("parcel 1", desk, 1, 8, 6, 7);
         desk.book(0, 7, 9);
         Check.journey("parcel 2", desk, 2, 9, 0, 7);
+    }
+
+    private static void wayByTheFirstAndTheLastNode() {
+        Check.about("Terms", "A WAY is a row of nodes: NODES 0 .. 7");
+        Desk desk = Desk.of(0, 0, 0, 0, 0, 0, 0, 0);
+        desk.contact(3, 5, 5, 6);
+        desk.contact(5, 7, 6, 7);
+        desk.contact(7, 2, 7, 8);
+        desk.contact(2, 0, 8, 9);
+        desk.contact(0, 4, 9, 10);
+        desk.book(3, 4, 5);
+        Check.journey("by 7 and 0", desk, 0, 5, 3, 5, 7, 2, 0, 4);
     }
 
     private static void wayComesToGoalOnce() {
